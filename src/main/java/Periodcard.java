@@ -382,7 +382,8 @@ public final class Periodcard {
         }
         for (int n = 0; n < DATES; n++) {
             for (int m = 0; m < DATES; m++) {
-                if (!isBetweenSound(dates[n], dates[m])) {
+                // between() and until() share one reckoning: no other answer to hold against it.
+                if (result.putBetween(dates[n], dates[m]) && !leads(dates[n], result, dates[m])) {
                     return false;
                 }
             }
@@ -478,7 +479,7 @@ public final class Periodcard {
 
     /** Whether a, moved by the span, comes to b. */
     private boolean leads(Day a, Span span, Day b) {
-        return reach(a, span, false) && reached.orderTo(b) == 0;
+        return reached.putMoved(a, span.allMonths(), span.days) && reached.orderTo(b) == 0;
     }
 
     private int ofHouse(int what) {
@@ -546,11 +547,6 @@ public final class Periodcard {
             return true;
         }
         return result.isAlikeTo(proof) == first.isAlikeTo(second);
-    }
-
-    // between() and until() share one reckoning, so there is no second answer to hold against it.
-    private boolean isBetweenSound(Day a, Day b) {
-        return !result.putBetween(a, b) || leads(a, result, b);
     }
 
     // ---- the checksum
@@ -657,22 +653,12 @@ public final class Periodcard {
         return day >= 1 && day <= daysOfMonth(year, month);
     }
 
-    private static boolean isLongYear(int year) {
-        return year % 4 == 0 && (year % 100 != 0 || year % 400 == 0);
-    }
-
     private static int daysOfMonth(int year, int month) {
-        switch (month) {
-            case 2:
-                return isLongYear(year) ? 29 : 28;
-            case 4:
-            case 6:
-            case 9:
-            case 11:
-                return 30;
-            default:
-                return 31;
+        if (month == 2) {
+            boolean isLongYear = year % 4 == 0 && (year % 100 != 0 || year % 400 == 0);
+            return isLongYear ? 29 : 28;
         }
+        return month == 4 || month == 6 || month == 9 || month == 11 ? 30 : 31;
     }
 
     /** How many days 1 January of a year lies behind 1 January 1600. */
