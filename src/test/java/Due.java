@@ -2,15 +2,25 @@
 final class Due {
     private static int asked = 0;
     private static int wrong = 0;
+    private static String place = "";
 
     private Due() {
+    }
+
+    /** From here on the calls are told with the place in the document that asks for their answers. */
+    static void at(String newPlace) {
+        place = newPlace + ": ";
+    }
+
+    static int asked() {
+        return asked;
     }
 
     static void is(String call, Object got, Object want) {
         asked++;
         if (!want.equals(got)) {
             wrong++;
-            System.out.println(call + " answered " + got + ", due is " + want);
+            System.out.println(place + call + " answered " + got + ", due is " + want);
         }
     }
 

@@ -61,13 +61,13 @@ public final class WholeTest {
     }
 
     private static void digests() {
-        Due.is("53: a new object", new Periodcard().digest(), Reckoned.digest(new Periodcard()));
+        Due.is("53: a new object", new Periodcard().digest(), Checksum.of(new Periodcard()));
         for (int seed = 0; seed < 200; seed++) {
             Periodcard x = full(seed);
-            Due.is("53: object " + seed, x.digest(), Reckoned.digest(x));
+            Due.is("53: object " + seed, x.digest(), Checksum.of(x));
             x.knock();
             x.take(0);
-            Due.is("53: changed object " + seed, x.digest(), Reckoned.digest(x));
+            Due.is("53: changed object " + seed, x.digest(), Checksum.of(x));
         }
     }
 
@@ -77,71 +77,5 @@ public final class WholeTest {
         x.isSound();
         Due.is("52, 53: asking changes nothing", x.digest(), d);
         Due.is("52, 53: asking is not counted", x.house(1), 0);
-    }
-
-    /** The checksum as promise 53 tells it, by the other methods of the face alone. */
-    private static final class Reckoned {
-        private final Periodcard x;
-        private long d = 6217;
-
-        private Reckoned(Periodcard x) {
-            this.x = x;
-        }
-
-        static long digest(Periodcard x) {
-            Reckoned reckoned = new Reckoned(x);
-            reckoned.cards();
-            reckoned.dates();
-            for (int what = 0; what < 5; what++) {
-                reckoned.next(x.house(what));
-            }
-            reckoned.next(x.isSound() ? 1 : 0);
-            return reckoned.d;
-        }
-
-        private void next(long v) {
-            d = d * 31 + v;
-        }
-
-        private void cards() {
-            for (int n = 0; n < 4; n++) {
-                next(x.part(n, 0));
-                next(x.part(n, 1));
-                next(x.part(n, 2));
-                next(Long.parseLong(x.total(n)));
-                next(x.isZero(n) ? 1 : 0);
-                next(x.isNegative(n) ? 1 : 0);
-                next(x.text(n).length());
-                next(x.tidy(n).length());
-                next(x.opposite(n).length());
-            }
-            for (int n = 0; n < 4; n++) {
-                for (int m = 0; m < 4; m++) {
-                    next(x.areSame(n, m) ? 1 : 0);
-                    next(x.areAlike(n, m) ? 1 : 0);
-                }
-            }
-            for (int k = 0; k < 8; k++) {
-                next(x.piled(k).length());
-            }
-        }
-
-        private void dates() {
-            for (int n = 0; n < 4; n++) {
-                for (int what = 0; what < 4; what++) {
-                    next(x.ofDate(n, what));
-                }
-                for (int m = 0; m < 4; m++) {
-                    next(x.moved(n, m, false).length());
-                    next(x.moved(n, m, true).length());
-                }
-            }
-            for (int n = 0; n < 4; n++) {
-                for (int m = 0; m < 4; m++) {
-                    next(x.order(n, m));
-                    next(x.apart(n, m).length());
-                }
-            }
-        }
     }
 }
