@@ -333,6 +333,9 @@ public final class DateEdgeTest {
             String before = Kept.all(x);
             Due.is("not told", x.isToldBack(0, 1), false);
             Due.is("not counted, and nothing changes", Kept.all(x) + x.house(1), before + 0);
+            x.ofDays(1, x.ofDate(1, 3) - x.ofDate(0, 3));
+            Due.is("some span leads there", x.moved(0, 1, false), x.dateText(1));
+            Due.is("still not told", x.isToldBack(0, 1), false);
             Due.is("the other way", x.isToldBack(1, 0), true);
         }
         for (int[] a : ANY_DAYS) {

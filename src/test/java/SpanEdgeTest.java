@@ -163,9 +163,9 @@ public final class SpanEdgeTest {
         return x;
     }
 
-    /** A span on card 0 of which one number alone is told; the two others are 5. */
+    /** A span on card 0 of which one number is told; the others are 5 years, 6 months or 7 days. */
     private static Periodcard withPart(int what, int number) {
-        Periodcard x = with(5, 5, 5);
+        Periodcard x = with(5, 6, 7);
         x.change(0, what, number);
         return x;
     }
@@ -369,10 +369,10 @@ public final class SpanEdgeTest {
         }
     }
 
-    /** Card 0 has this number, card 1 that one; the two others are 5 and 1. */
+    /** Card 0 has the first number, card 1 the second one; the others are small. */
     private static Periodcard withParts(int what, int first, int second) {
         Periodcard x = withPart(what, first);
-        x.write(1, 1, 1, 1);
+        x.write(1, 1, 2, 3);
         x.change(1, what, second);
         return x;
     }
@@ -420,19 +420,20 @@ public final class SpanEdgeTest {
     }
 
     private static void isMultiplied(int what, int number, int n) {
-        long due = (long) number * n;
-        // The two other numbers are 5, and have to be told, too.
-        boolean isTold = due >= MIN && due <= MAX && 5L * n >= MIN && 5L * n <= MAX;
         Periodcard x = withPart(what, number);
         String name = n + " times " + x.text(0);
+        long[] due = new long[3];
+        boolean isTold = true;
+        for (int k = 0; k < 3; k++) {
+            due[k] = (long) x.part(0, k) * n;
+            isTold = isTold && due[k] >= MIN && due[k] <= MAX;
+        }
         if (!isTold) {
             Kept.refuses(name, x, y -> y.multipliedBy(0, n));
             return;
         }
         Due.is(name, x.multipliedBy(0, n), n == 1 ? 0 : 1);
-        Periodcard y = with(5 * n, 5 * n, 5 * n);
-        y.change(0, what, (int) due);
-        Due.is(name, x.text(0), y.text(0));
+        Due.is(name, x.text(0), due[0] + "y " + due[1] + "m " + due[2] + "d");
     }
 
     private static void anyTimes() {
